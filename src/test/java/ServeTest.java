@@ -82,6 +82,14 @@ public final class ServeTest {
         Check.rights(x, 0, 1, 1, 0, 1);
         counts(x, 4, 0, 2);
         Check.steps(x, 1, 10);
+        for (int writer = 0; writer < 3; writer += 2) {
+            x = pages();
+            spawnAndFault(x, 1, writer);
+            spawnAndFault(x, 0, 2 - writer);
+            x.serve(0);
+            x.serve(0);
+            Check.rights(x, 0, 1, 0, 1, writer);
+        }
     }
 
     private static void writeTakesAllOthersRights() {

@@ -160,13 +160,14 @@ public final class StepTest {
         ClusterImage x = new ClusterImage();
         Check.load(x, new int[][] {{0, Op.SELF, 1, 0}, {0, Op.WHERE, 2, 0}, {0, Op.WHERE, 3, 0}});
         x.spawn(1, 0);
+        x.spawn(1, 0);
         x.spawn(0, 1);
-        Check.steps(x, 1, 1, 1);
-        Check.due("SELF", x.reg(1, 1), 1);
-        Check.due("WHERE", x.reg(1, 2), 1);
-        x.migrate(1, 2);
-        Check.steps(x, 2, 1);
-        Check.due("WHERE", x.reg(1, 3), 2);
+        Check.steps(x, 1, 2, 2);
+        Check.due("SELF", x.reg(2, 1), 2);
+        Check.due("WHERE", x.reg(2, 2), 1);
+        x.migrate(2, 0);
+        Check.steps(x, 0, 30, 31, 2);
+        Check.due("WHERE", x.reg(2, 3), 0);
     }
 
     private static void exitsWithACode() {
