@@ -1,21 +1,27 @@
 /** Compares answers with those that are due, and ends a test with exit code 1 if one was wrong. */
 public final class Check {
     private static int wrong = 0;
+    private static String sentence = "";
 
     private Check() {
+    }
+
+    /** Names the sentence that the next answers belong to, so that a wrong one tells which is broken. */
+    public static void sentence(String words) {
+        sentence = "\"" + words + "\": ";
     }
 
     public static void due(String call, long got, long want) {
         if (got != want) {
             wrong++;
-            System.out.println(call + " answered " + got + ", due is " + want);
+            System.out.println(sentence + call + " answered " + got + ", due is " + want);
         }
     }
 
     public static void dueText(String what, String got, String want) {
         if (!got.equals(want)) {
             wrong++;
-            System.out.println(what + "\n  is     " + got + "\n  due is " + want);
+            System.out.println(sentence + what + "\n  is     " + got + "\n  due is " + want);
         }
     }
 
@@ -71,6 +77,47 @@ public final class Check {
         due("right(1, " + page + ")", x.right(1, page), r1);
         due("right(2, " + page + ")", x.right(2, page), r2);
         due("owner(" + page + ")", x.owner(page), owner);
+    }
+
+    /** A new object with these instructions in it. */
+    public static ClusterImage with(int[][] instructions) {
+        ClusterImage x = new ClusterImage();
+        load(x, instructions);
+        return x;
+    }
+
+    /** Lets a single process at a node do so many instructions, each of which has to leave it ready. */
+    public static void ready(ClusterImage x, int node, int process, int steps) {
+        for (int i = 0; i < steps; i++) {
+            due("step(" + node + ") number " + i, x.step(node), process);
+        }
+    }
+
+    /** Lets the first process of a node fault on a page, and grants the request. */
+    public static void faultAndServe(ClusterImage x, int node, int process, int page) {
+        due("fault: step(" + node + ")", x.step(node), 10 + process);
+        due("serve(" + page + ")", x.serve(page), process);
+    }
+
+    public static void regs(ClusterImage x, int process, long r0, long r1, long r2, long r3) {
+        long[] want = {r0, r1, r2, r3};
+        for (int i = 0; i < 4; i++) {
+            due("reg(" + process + ", " + i + ")", x.reg(process, i), want[i]);
+        }
+    }
+
+    /** State, place, counter, slice, code and page. */
+    public static void infos(ClusterImage x, int process, long... want) {
+        for (int i = 0; i < want.length; i++) {
+            due("info(" + process + ", " + i + ")", x.info(process, i), want[i]);
+        }
+    }
+
+    /** Made, messages, faults, given up, requests, ready, grants. */
+    public static void counts(ClusterImage x, int... want) {
+        for (int i = 0; i < want.length; i++) {
+            due("count(" + i + ")", x.count(i), want[i]);
+        }
     }
 
     /** All that can be read without changing the object. */
